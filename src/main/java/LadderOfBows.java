@@ -33,7 +33,8 @@ public final class LadderOfBows {
     /** What is only thought of is done here, so that no call makes a town of its own. */
     private final Town trial;
     private final Acts acts;
-    private final Acts[] kept;
+    private final Acts keptFirst;
+    private final Acts keptSecond;
     private int keptTowns;
     private int silences;
     private int silentStreets;
@@ -44,14 +45,11 @@ public final class LadderOfBows {
         text = new Letters();
         reader = new Reader();
         start = firstTown();
-        now = new Town();
-        now.copyFrom(start);
+        now = firstTown();
         trial = new Town();
         acts = new Acts();
-        kept = new Acts[MOST_KEPT];
-        for (int k = 0; k < MOST_KEPT; k++) {
-            kept[k] = new Acts();
-        }
+        keptFirst = new Acts();
+        keptSecond = new Acts();
         links = new Links();
         debtPlaces = new int[ROOM * ROOM];
     }
@@ -117,7 +115,7 @@ public final class LadderOfBows {
             case 4:
                 return now.owedTo(i);
             case 5:
-                return asNumber(now.takesApology(i));
+                return asNumber(now.isAlive(i) && now.takesApology(i));
             default:
                 return BAD;
         }
@@ -389,8 +387,8 @@ public final class LadderOfBows {
         if (keptTowns >= MOST_KEPT) {
             return FULL;
         }
-        kept[keptTowns].copyFrom(acts);
         keptTowns++;
+        latestKept().copyFrom(acts);
         return keptTowns;
     }
 
@@ -398,8 +396,8 @@ public final class LadderOfBows {
         if (keptTowns < 1) {
             return NO;
         }
+        acts.copyFrom(latestKept());
         keptTowns--;
-        acts.copyFrom(kept[keptTowns]);
         doAgain(now, NOTHING);
         return keptTowns;
     }
@@ -481,6 +479,10 @@ public final class LadderOfBows {
                 town.perform(kind, i, j);
             }
         }
+    }
+
+    private Acts latestKept() {
+        return keptTowns == 1 ? keptFirst : keptSecond;
     }
 
     private void forgetSilence() {
@@ -893,8 +895,9 @@ public final class LadderOfBows {
             return bits;
         }
 
+        /** Of one who is alive: the dead are owed nothing, so none is ever asked there. */
         boolean takesApology(int i) {
-            return isAlive(i) && (kinds[i] == PRIEST || owing[i] == 0);
+            return kinds[i] == PRIEST || owing[i] == 0;
         }
 
         boolean maySpeak(int i, int j) {

@@ -705,6 +705,14 @@ public final class PromiseTests {
         due("easter() on day 40", forty.easter(), 40);
         forty.days(1);
         due("easter() on day 41", forty.easter(), NONE);
+        LadderOfBows idle = town("p0,0;");
+        for (int k = 0; k < 4; k++) {
+            idle.days(9);
+        }
+        idle.days(4);
+        due("easter() on day 40, nothing being owed", idle.easter(), 40);
+        idle.days(1);
+        due("easter() on day 41, nothing being owed", idle.easter(), NONE);
         // PEACE of day 0 leaves the ring; nothing comes by itself
         due("easter() of a ring", town("p0,0;p0,0;p0,0;o0,1,1;o1,2,1;o2,0,1;e60;").easter(), NONE);
         // PEACE of each day is kept: AT ONCE on day 1 the PLAIN one pays all, on day 2 the DRUNK one
@@ -782,6 +790,7 @@ public final class PromiseTests {
         due("year(0, 61, 0)", x.year(0, 61, 0), BAD);
         due("year(0, 1, 2)", x.year(0, 1, 2), BAD);
         due("year(0, 1, -1)", x.year(0, 1, -1), BAD);
+        due("year(9999, 60, 0) of one", town("p0,0;").year(9999, 60, 0), 0);
         due("count(3): nothing changes", x.count(3), 0);
         due("count(4): nothing changes", x.count(4), 0);
         yearOfBows();
