@@ -562,9 +562,9 @@ public final class LadderOfBows {
         return divisor;
     }
 
-    /** A WRONG where 9 are owed leaves 9, and so fits as any other one does. */
+    /** A WRONG that can not be done now (one is dead, 9 are owed already) fits nowhere. */
     private boolean wrongFits(int i, int j) {
-        if (i == j || !now.isAlive(i) || !now.isAlive(j)) {
+        if (!now.canBeDone(WRONG, i, j)) {
             return false;
         }
         trial.copyFrom(now);

@@ -773,9 +773,9 @@ public final class ModelTests {
             List<Integer> found = new ArrayList<>();
             for (int p = 0; p < 64; p++) {
                 int i = p / 8, j = p % 8;
-                if (i < now.n && j < now.n && i != j && now.alive[i] && now.alive[j]) {
+                if (i < now.n && j < now.n && now.can("wrong", i, j)) {
                     State s = now.copy();
-                    s.o[i][j] = Math.min(9, s.o[i][j] + 1);
+                    s.make("wrong", i, j);
                     boolean fine = true;
                     for (int street : silent) {
                         for (int q = 0; q < 64; q++) {

@@ -64,6 +64,7 @@ public final class PromiseTests {
         easter();
         silentAndForget();
         fits();
+        fitsWhereNineAreOwed();
         year();
         keepAndBack();
         count();
@@ -747,7 +748,7 @@ public final class PromiseTests {
 
     private static void fits() {
         promise = 30;
-        LadderOfBows x = town("p0,0;p0,0;p0,0;p0,1;p0,1;o0,1,9;o2,1,1;");
+        LadderOfBows x = town("p0,0;p0,0;p0,0;p0,1;p0,1;o0,1,8;o2,1,1;");
         due("fits(0), nothing SILENT", x.fits(0), 20);
         due("fits(1), nothing SILENT", x.fits(1), 1);
         x.silent(0);
@@ -762,13 +763,41 @@ public final class PromiseTests {
         x.die(3);
         due("fits(0)", x.fits(0), 2);
         x.wrong(2, 0);
-        // nobody speaks there anyway: 4 alive, all twelve, 9 owed or not
+        // nobody speaks there anyway: 4 alive, all twelve
         due("fits(0)", x.fits(0), 12);
         due("fits(1)", x.fits(1), 1);
         x.die(0);
+        due("fits(0)", x.fits(0), 6);
         due("fits(1)", x.fits(1), 8 * 1 + 2);
         due("fits(2)", x.fits(2), BAD);
         due("fits(-1)", x.fits(-1), BAD);
+    }
+
+    private static void fitsWhereNineAreOwed() {
+        promise = 30;
+        LadderOfBows x = town("p0,0;p0,0;p0,1;o0,1,8;");
+        due("fits(0), 8 owed", x.fits(0), 6);
+        due("fits(1), 8 owed", x.fits(1), 1);
+        x.wrong(0, 1);
+        due("wrong(0, 1), 9 owed", x.wrong(0, 1), NO);
+        due("fits(0), 9 owed", x.fits(0), 5);
+        due("fits(1), 9 owed", x.fits(1), 2);
+        x.silent(0);
+        due("fits(0), 9 owed, SILENT", x.fits(0), 5);
+        due("fits(1), 9 owed, SILENT", x.fits(1), 2);
+        due("owes(0, 1), nothing changed", x.owes(0, 1), 9);
+        x.undo();
+        due("fits(0), UNDONE", x.fits(0), 6);
+        due("fits(1), UNDONE", x.fits(1), 1);
+        x = town("p0,0;p0,0;o0,1,9;");
+        due("fits(0), the other way", x.fits(0), 1);
+        due("fits(1), the other way", x.fits(1), 8 * 1);
+        x = town("p0,0;p0,0;o0,1,9;o1,0,9;");
+        due("fits(0), all owe 9", x.fits(0), 0);
+        due("fits(1), all owe 9", x.fits(1), NONE);
+        x = town("p0,0;");
+        due("fits(0), one alone", x.fits(0), 0);
+        due("fits(1), one alone", x.fits(1), NONE);
     }
 
     private static void year() {
