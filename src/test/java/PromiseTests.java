@@ -1,40 +1,5 @@
 /** For each promise of the document, answers worked out by hand: ordinary calls, edges, wrong numbers. */
-public final class PromiseTests {
-    private static final int BAD = -1, NO = -2, FULL = -3, NONE = -4;
-    private static int wrong = 0;
-    private static int promise = 0;
-
-    private static void due(String call, int got, int want) {
-        if (got != want) {
-            wrong++;
-            System.out.println("promise " + promise + ": " + call + " answered " + got + ", due is " + want);
-        }
-    }
-
-    private static void put(LadderOfBows x, String text) {
-        x.wipe();
-        for (int k = 0; k < text.length(); k++) {
-            x.write(text.charAt(k));
-        }
-    }
-
-    private static LadderOfBows town(String text) {
-        LadderOfBows x = new LadderOfBows();
-        put(x, text);
-        if (x.lay() < 1) {
-            wrong++;
-            System.out.println("promise " + promise + ": " + text + " was not LAID");
-        }
-        return x;
-    }
-
-    /** 40 ACTS that change nothing in the end but the day: DAYS of 1. */
-    private static void fill(LadderOfBows x, int acts) {
-        for (int k = 0; k < acts; k++) {
-            x.days(1);
-        }
-    }
-
+public final class PromiseTests extends Checks {
     public static void main(String[] args) {
         newObject();
         write();
@@ -68,14 +33,11 @@ public final class PromiseTests {
         year();
         keepAndBack();
         count();
-        System.out.println(wrong == 0 ? "all promises hold" : wrong + " answers are not as promised");
-        if (wrong != 0) {
-            System.exit(1);
-        }
+        end();
     }
 
     private static void newObject() {
-        promise = 1;
+        about(1);
         LadderOfBows x = new LadderOfBows();
         int[] counts = {5, 5, 0, 8, 0, 0, 0, 0};
         for (int what = 0; what < counts.length; what++) {
@@ -99,7 +61,7 @@ public final class PromiseTests {
     }
 
     private static void write() {
-        promise = 2;
+        about(2);
         LadderOfBows x = new LadderOfBows();
         due("write(31)", x.write(31), BAD);
         due("write(127)", x.write(127), BAD);
@@ -117,7 +79,7 @@ public final class PromiseTests {
     }
 
     private static void wipe() {
-        promise = 3;
+        about(3);
         LadderOfBows x = new LadderOfBows();
         due("wipe()", x.wipe(), 0);
         x.write('e');
@@ -131,7 +93,7 @@ public final class PromiseTests {
     }
 
     private static void fault() {
-        promise = 4;
+        about(4);
         String[] fine = {
             "", "e1;", "e60;", "e01;e60;", "p0,0;", "p3,3;", "p00,03;", "p0,0;p0,0;o0,1,9;", "p0,0;p0,0;o1,00,09;",
             "p0,0;p1,1;o0,1,0;o0,1,3;e7;p2,2;o2,0,1;", "p0,0;p0,0;p0,0;p0,0;p0,0;p0,0;p0,0;o6,5,1;"};
@@ -168,7 +130,7 @@ public final class PromiseTests {
     }
 
     private static void lay() {
-        promise = 5;
+        about(5);
         LadderOfBows x = new LadderOfBows();
         x.wrong(0, 3);
         x.days(8);
@@ -205,7 +167,7 @@ public final class PromiseTests {
     }
 
     private static void person() {
-        promise = 6;
+        about(6);
         LadderOfBows x = town("p0,1;p1,2;p2,3;p3,0;o0,1,2;o0,2,3;o1,0,4;o2,3,1;");
         int[][] want = {{0, 1, 1, 5, 4, 0}, {1, 2, 1, 4, 2, 1}, {2, 3, 1, 1, 3, 0}, {3, 0, 1, 0, 1, 1}};
         for (int i = 0; i < 4; i++) {
@@ -229,7 +191,7 @@ public final class PromiseTests {
 
     private static void owesAndSpeak() {
         LadderOfBows x = town("p0,0;p0,0;p0,0;o0,1,9;o2,1,1;");
-        promise = 7;
+        about(7);
         due("owes(0, 1)", x.owes(0, 1), 9);
         due("owes(1, 0)", x.owes(1, 0), 0);
         due("owes(2, 1)", x.owes(2, 1), 1);
@@ -237,7 +199,7 @@ public final class PromiseTests {
         due("owes(-1, 1)", x.owes(-1, 1), BAD);
         due("owes(1, 3)", x.owes(1, 3), BAD);
         due("owes(min, max)", x.owes(Integer.MIN_VALUE, Integer.MAX_VALUE), BAD);
-        promise = 8;
+        about(8);
         due("speak(0, 1)", x.speak(0, 1), 0);
         due("speak(1, 0)", x.speak(1, 0), 0);
         due("speak(0, 2)", x.speak(0, 2), 1);
@@ -251,7 +213,7 @@ public final class PromiseTests {
     }
 
     private static void wrongs() {
-        promise = 9;
+        about(9);
         LadderOfBows x = town("p0,0;p0,0;p0,0;o0,1,7;");
         due("wrong(0, 1)", x.wrong(0, 1), 8);
         due("wrong(0, 1)", x.wrong(0, 1), 9);
@@ -274,7 +236,7 @@ public final class PromiseTests {
     }
 
     private static void bows() {
-        promise = 10;
+        about(10);
         LadderOfBows x = town("p0,0;p1,0;p2,0;p3,0;p0,0;o0,1,2;o1,4,1;o2,4,5;o3,4,2;o4,0,1;");
         due("bow(0, 1) to a PRIEST who owes", x.bow(0, 1), 1);
         due("bow(1, 4) to one who owes", x.bow(1, 4), NO);
@@ -303,7 +265,7 @@ public final class PromiseTests {
     }
 
     private static void refusals() {
-        promise = 11;
+        about(11);
         LadderOfBows x = town("p0,0;p0,0;p3,0;o0,1,8;o2,1,1;");
         due("refuse(0, 1)", x.refuse(0, 1), 9);
         due("refuse(0, 1) at 9", x.refuse(0, 1), NO);
@@ -324,7 +286,7 @@ public final class PromiseTests {
     }
 
     private static void atOnce() {
-        promise = 12;
+        about(12);
         LadderOfBows x = town("p0,0;p0,0;p3,0;p3,0;p2,0;o0,1,3;o1,0,2;o2,3,2;o3,2,2;o4,0,1;");
         due("atOnce(0, 1)", x.atOnce(0, 1), 3);
         due("owes(0, 1)", x.owes(0, 1), 2);
@@ -352,7 +314,7 @@ public final class PromiseTests {
     }
 
     private static void deaths() {
-        promise = 13;
+        about(13);
         LadderOfBows x = town("p1,0;p0,0;p0,0;o0,1,2;o1,2,3;o2,1,4;");
         due("die(3)", x.die(3), BAD);
         due("die(-1)", x.die(-1), BAD);
@@ -378,7 +340,7 @@ public final class PromiseTests {
     }
 
     private static void days() {
-        promise = 14;
+        about(14);
         LadderOfBows x = town("p1,0;p0,0;p1,0;o0,1,8;");
         due("days(0)", x.days(0), BAD);
         due("days(10)", x.days(10), BAD);
@@ -397,7 +359,7 @@ public final class PromiseTests {
     }
 
     private static void undo() {
-        promise = 15;
+        about(15);
         LadderOfBows x = town("p1,0;p2,0;p3,0;o0,1,2;o1,2,5;o2,0,1;");
         due("undo()", x.undo(), NO);
         x.bow(2, 0);
@@ -430,7 +392,7 @@ public final class PromiseTests {
     }
 
     private static void peace() {
-        promise = 16;
+        about(16);
         LadderOfBows chain = town("p0,0;p2,0;p0,0;p0,0;o0,1,3;o1,2,9;o2,3,2;");
         duePeace(chain, 2 + 1 + 3, 0, 0);
         LadderOfBows two = town("p0,0;p0,0;o0,1,3;o1,0,5;");
@@ -463,7 +425,7 @@ public final class PromiseTests {
     }
 
     private static void ring() {
-        promise = 17;
+        about(17);
         LadderOfBows x = town("p0,0;p0,0;p0,0;p0,0;p0,0;o0,2,1;o0,1,1;o1,3,1;o2,3,1;o3,0,1;o2,1,1;o1,2,1;o4,0,1;");
         due("ring(0, 0)", x.ring(0, 0), 3);
         due("ring(0, 1)", x.ring(0, 1), 1);
@@ -486,7 +448,7 @@ public final class PromiseTests {
     }
 
     private static void forgiven() {
-        promise = 18;
+        about(18);
         LadderOfBows x = town("p0,0;p0,0;p0,0;p0,0;o0,1,5;o1,2,2;o2,0,3;o0,3,1;o3,1,1;");
         // without 0 to 1 the ring 0, 3, 1, 2 is left, without 0 to 3 the ring 0, 1, 2; without 1 to 2 all is paid
         due("forgiven(0)", x.forgiven(0), 8 * 1 + 2);
@@ -504,7 +466,7 @@ public final class PromiseTests {
     }
 
     private static void mustNot() {
-        promise = 19;
+        about(19);
         LadderOfBows x = town("p0,0;p0,0;p1,0;p0,0;o0,1,1;o3,2,9;");
         // were 1 to wrong 0, they owe each other alone: AT ONCE helps; all else is paid, too
         due("mustNot(1)", x.mustNot(1), 0);
@@ -526,7 +488,7 @@ public final class PromiseTests {
     }
 
     private static void began() {
-        promise = 20;
+        about(20);
         LadderOfBows x = town("p0,0;p0,0;p0,0;");
         due("began()", x.began(), NONE);
         x.wrong(0, 1);
@@ -557,7 +519,7 @@ public final class PromiseTests {
     }
 
     private static void word() {
-        promise = 21;
+        about(21);
         LadderOfBows x = town("p0,0;p0,0;p0,0;p0,0;p0,0;o0,2,1;o3,0,1;o1,3,1;o0,4,1;o1,4,1;o2,4,1;o3,4,1;");
         due("word(0, 0)", x.word(0, 0), 0);
         due("word(0, 1)", x.word(0, 1), 1);
@@ -576,7 +538,7 @@ public final class PromiseTests {
     }
 
     private static void vote() {
-        promise = 22;
+        about(22);
         LadderOfBows x = town("p0,0;p0,0;p0,0;p0,0;o0,1,1;o0,2,1;o1,3,1;o2,3,1;");
         // {1, 2} is 6, {0, 3} is 9
         due("vote()", x.vote(), 6);
@@ -592,7 +554,7 @@ public final class PromiseTests {
     }
 
     private static void deals() {
-        promise = 23;
+        about(23);
         due("deals() of 7", town("p0,0;p0,0;p0,0;p0,0;p0,0;p0,0;p0,0;").deals(), 3);
         due("deals() of 1", town("p0,0;").deals(), 0);
         LadderOfBows star = town("p0,0;p0,0;p0,0;p0,0;o1,2,1;o2,3,1;o3,1,1;");
@@ -608,7 +570,7 @@ public final class PromiseTests {
     }
 
     private static void guests() {
-        promise = 24;
+        about(24);
         LadderOfBows x = town("p0,0;p0,0;p0,0;p0,0;p0,0;o0,3,1;o4,1,1;o0,1,2;");
         due("guests(0, 1)", x.guests(0, 1), 4);
         due("guests(0, 2)", x.guests(0, 2), 16);
@@ -624,7 +586,7 @@ public final class PromiseTests {
     }
 
     private static void court() {
-        promise = 25;
+        about(25);
         // a ring of three and one who waits for it: three of four debts free it
         LadderOfBows x = town("p0,0;p0,0;p0,0;p0,0;o0,1,1;o1,2,1;o2,0,1;o3,0,4;");
         dueCourt(x, 0, 0, 1);
@@ -654,7 +616,7 @@ public final class PromiseTests {
     }
 
     private static void stranger() {
-        promise = 26;
+        about(26);
         LadderOfBows x = town("p0,0;p1,0;p0,0;p0,0;o0,2,1;o2,3,1;o3,0,1;o1,0,1;");
         // he bows to the PRIEST alone
         due("stranger(0)", x.stranger(0), 101);
@@ -679,7 +641,7 @@ public final class PromiseTests {
     }
 
     private static void easter() {
-        promise = 27;
+        about(27);
         LadderOfBows x = town("p3,0;p0,0;o0,1,2;e3;");
         due("easter()", x.easter(), 0);
         x.days(1);
@@ -729,7 +691,7 @@ public final class PromiseTests {
     }
 
     private static void silentAndForget() {
-        promise = 28;
+        about(28);
         LadderOfBows x = new LadderOfBows();
         due("silent(-1)", x.silent(-1), BAD);
         due("silent(4)", x.silent(4), BAD);
@@ -739,7 +701,7 @@ public final class PromiseTests {
         due("silent(2) FULL", x.silent(2), FULL);
         due("silent(4) BAD ahead of FULL", x.silent(4), BAD);
         due("count(5)", x.count(5), 6);
-        promise = 29;
+        about(29);
         due("forget()", x.forget(), 6);
         due("forget()", x.forget(), 0);
         due("silent(3)", x.silent(3), 1);
@@ -747,7 +709,7 @@ public final class PromiseTests {
     }
 
     private static void fits() {
-        promise = 30;
+        about(30);
         LadderOfBows x = town("p0,0;p0,0;p0,0;p0,1;p0,1;o0,1,8;o2,1,1;");
         due("fits(0), nothing SILENT", x.fits(0), 20);
         due("fits(1), nothing SILENT", x.fits(1), 1);
@@ -774,7 +736,7 @@ public final class PromiseTests {
     }
 
     private static void fitsWhereNineAreOwed() {
-        promise = 30;
+        about(30);
         LadderOfBows x = town("p0,0;p0,0;p0,1;o0,1,8;");
         due("fits(0), 8 owed", x.fits(0), 6);
         due("fits(1), 8 owed", x.fits(1), 1);
@@ -801,7 +763,7 @@ public final class PromiseTests {
     }
 
     private static void year() {
-        promise = 31;
+        about(31);
         LadderOfBows x = town("p0,0;p0,0;p0,0;");
         // z 0: step 0 draws 1: i 1, j 0, way 0: 1 WRONGS 0
         due("year(0, 1, 0)", x.year(0, 1, 0), 1);
@@ -847,14 +809,14 @@ public final class PromiseTests {
     }
 
     private static void keepAndBack() {
-        promise = 32;
+        about(32);
         LadderOfBows x = new LadderOfBows();
         due("keep()", x.keep(), 1);
         x.wrong(0, 3);
         x.days(2);
         due("keep()", x.keep(), 2);
         due("keep() FULL", x.keep(), FULL);
-        promise = 33;
+        about(33);
         x.undo();
         x.undo();
         x.die(2);
@@ -880,7 +842,7 @@ public final class PromiseTests {
     }
 
     private static void count() {
-        promise = 34;
+        about(34);
         LadderOfBows x = town("p1,0;p0,0;p0,0;o0,1,2;");
         x.days(7);
         x.die(1);
