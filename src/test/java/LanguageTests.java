@@ -1,21 +1,25 @@
 import com.sun.management.ThreadMXBean;
 import java.io.IOException;
 import java.lang.management.ManagementFactory;
+import java.lang.reflect.Constructor;
 import java.lang.reflect.Field;
 import java.lang.reflect.Method;
 import java.lang.reflect.Modifier;
 import java.nio.file.Files;
 import java.nio.file.Path;
+import java.util.Arrays;
 import java.util.Set;
 import java.util.TreeSet;
 import java.util.regex.Matcher;
 import java.util.regex.Pattern;
+import java.util.stream.Collectors;
 
 /** What LANGUAGE.md asks of the source, as far as a test can see it; run from the project's folder. */
 public final class LanguageTests {
     private static final Path SOURCE = Path.of("src/main/java/LadderOfBows.java");
-    private static final String FACE = "write wipe fault lay person owes speak wrong bow refuse atOnce die days undo peace "
-            + "ring forgiven mustNot began word vote deals guests court stranger easter silent forget fits year keep back count";
+    private static final Path DOCUMENT = Path.of("../shared/DOC.md");
+    private static final Pattern FACE_LINE = Pattern.compile("(?m)^    public int (\\w+)\\(([^)]*)\\);$");
+    private static final int FACE_METHODS = 33;
     private static final Pattern RULED_OUT = Pattern.compile(
             "\\b(throw|throws|try|catch|finally|synchronized|assert|package|goto|var|hashCode|toString|Object)\\b|->|::|Exact\\(|\\bnew \\w+\\([^)]*\\) \\{");
     private static final int MOST_LINES = 60;
@@ -32,7 +36,7 @@ public final class LanguageTests {
         String code = source.replaceAll("(?s)/\\*.*?\\*/", "").replaceAll("//[^\n]*", "").replaceAll("\"[^\"\n]*\"", "\"\"");
         words(code);
         methodLengths(source);
-        face();
+        face(Files.readString(DOCUMENT));
         statics();
         room();
         System.out.println(wrong == 0 ? "the source keeps to the rules" : wrong + " rules are broken");
@@ -70,27 +74,59 @@ public final class LanguageTests {
         }
     }
 
-    private static void face() {
-        Set<String> face = new TreeSet<>(Set.of(FACE.split(" ")));
+    /** Every method of the document's face is there, taking and answering ints, and no other one can be seen. */
+    private static void face(String document) {
+        Set<String> face = new TreeSet<>();
+        Set<String> names = new TreeSet<>();
+        Matcher line = FACE_LINE.matcher(document);
+        while (line.find()) {
+            names.add(line.group(1));
+            face.add("int " + line.group(1) + "(" + line.group(2).replaceAll("int \\w+", "int") + ")");
+        }
+        if (face.size() != FACE_METHODS) {
+            refuse("the document's face is read as " + face);
+        }
         Set<String> found = new TreeSet<>();
         for (Method method : LadderOfBows.class.getDeclaredMethods()) {
             if (Modifier.isPublic(method.getModifiers())) {
-                found.add(method.getName());
+                found.add(asInDocument(method));
             } else if (!Modifier.isPrivate(method.getModifiers())) {
                 refuse("neither public nor private: " + method);
-            } else if (face.contains(method.getName())) {
+            } else if (names.contains(method.getName())) {
                 refuse("private, with a public one's name: " + method);
             }
         }
         if (!found.equals(face)) {
             refuse("the face is " + found);
         }
+        classItself();
+        classesInside(names);
+    }
+
+    private static String asInDocument(Method method) {
+        String types = Arrays.stream(method.getParameterTypes()).map(Class::getName).collect(Collectors.joining(", "));
+        boolean isStatic = Modifier.isStatic(method.getModifiers());
+        return (isStatic ? "static " : "") + method.getReturnType().getName() + " " + method.getName() + "(" + types + ")";
+    }
+
+    private static void classItself() {
+        int how = LadderOfBows.class.getModifiers();
+        if (!Modifier.isPublic(how) || !Modifier.isFinal(how) || LadderOfBows.class.getSuperclass() != Object.class) {
+            refuse("the class is not public and final, or is more than itself");
+        }
+        Constructor<?>[] constructors = LadderOfBows.class.getDeclaredConstructors();
+        if (constructors.length != 1 || !constructors[0].toString().equals("public LadderOfBows()")) {
+            refuse("constructors: " + Arrays.toString(constructors));
+        }
+    }
+
+    private static void classesInside(Set<String> names) {
         for (Class<?> inner : LadderOfBows.class.getDeclaredClasses()) {
             if (!Modifier.isStatic(inner.getModifiers())) {
                 refuse("not static: " + inner);
             }
             for (Method method : inner.getDeclaredMethods()) {
-                if (face.contains(method.getName())) {
+                if (names.contains(method.getName())) {
                     refuse("with a public one's name: " + method);
                 }
             }
@@ -98,15 +134,19 @@ public final class LanguageTests {
     }
 
     private static void statics() {
-        Set<String> constants = Set.of("BAD", "NO", "FULL", "NONE");
+        Set<String> constants = new TreeSet<>(Set.of("BAD", "NO", "FULL", "NONE"));
         for (Field field : LadderOfBows.class.getDeclaredFields()) {
             int how = field.getModifiers();
-            if (!constants.contains(field.getName()) && !Modifier.isPrivate(how)) {
+            boolean isOfFace = field.toString().equals("public static final int LadderOfBows." + field.getName());
+            if (!(isOfFace && constants.remove(field.getName())) && !Modifier.isPrivate(how)) {
                 refuse("not private: " + field);
             }
             if (Modifier.isStatic(how) && !Modifier.isFinal(how)) {
                 refuse("static and not final: " + field);
             }
+        }
+        if (!constants.isEmpty()) {
+            refuse("constants that are not there: " + constants);
         }
     }
 

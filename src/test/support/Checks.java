@@ -12,6 +12,10 @@ abstract class Checks {
     private static int asked = 0;
     private static String about = "";
 
+    static void about(String what) {
+        about = what;
+    }
+
     static void about(int promise) {
         about = "promise " + promise;
     }
